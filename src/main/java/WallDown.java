@@ -55,8 +55,7 @@ public final class WallDown {
     private final House trial = new House();
     private final Survey survey = new Survey();
     private final Rows rows = new Rows();
-    private final Tape tape = new Tape();
-    private final Teller teller = new Teller(tape, trial, survey);
+    private final Teller teller = new Teller();
     private final Sheet[] sheets = new Sheet[SHEETS];
     private final int[] found = new int[FINDINGS];
     private boolean keeps;
@@ -421,28 +420,27 @@ public final class WallDown {
         if (!isWithin(n, 1, 4)) {
             return finding(BEYOND);
         }
-        if (tape.length + n > TAPE_MOST) {
+        if (teller.tape.length + n > TAPE_MOST) {
             return finding(FULL);
         }
         for (int left = n - 1; left >= 0; left--) {
-            tape.append(bytes >> (8 * left) & 255);
+            teller.tape.append(bytes >> (8 * left) & 255);
         }
-        return tape.length;
+        return teller.tape.length;
     }
 
     public int wipe() {
-        int had = tape.length;
-        tape.length = 0;
+        int had = teller.tape.length;
+        teller.tape.length = 0;
         return had;
     }
 
     public int house() {
-        trial.becomeLike(house);
-        int items = teller.tell();
+        int items = teller.tell(house);
         if (items >= 0) {
-            house.becomeLike(trial);
+            house.becomeLike(teller.site);
         }
-        tape.length = 0;
+        teller.tape.length = 0;
         return items;
     }
 
@@ -571,7 +569,7 @@ public final class WallDown {
             case 0:
                 return house.allStones();
             case 1:
-                return tape.length;
+                return teller.tape.length;
             case 2:
                 return house.allTops();
             case 3:
@@ -910,17 +908,14 @@ public final class WallDown {
             if (left == 0) {
                 return false;
             }
-            boolean overBefore = wall == 0 || leftAt(stand, wall - 1) <= left;
-            boolean overAfter = wall == WALLS - 1 || leftAt(stand, wall + 1) <= left;
-            switch (lowestKinds[wall * STEP + left]) {
-                case KEY:
-                case CARVED:
-                    return overBefore && overAfter;
-                case THROUGH:
-                    return overAfter;
-                default:
-                    return true;
+            int kind = lowestKinds[wall * STEP + left];
+            if (kind != KEY && kind != CARVED && kind != THROUGH) {
+                return true;
             }
+            if (wall < WALLS - 1 && leftAt(stand, wall + 1) > left) {
+                return false;
+            }
+            return kind == THROUGH || wall == 0 || leftAt(stand, wall - 1) <= left;
         }
 
         boolean canPullAt(int stand, int wall) {
@@ -1144,22 +1139,18 @@ public final class WallDown {
     }
 
     /**
-     * Tells THE TEXT of a HOUSE to a house. Each ITEM's method begins behind its first WORD and
-     * ends ahead of the TOKEN behind it; it answers false at the TOKEN that can't stand there.
+     * Tells THE TEXT of a HOUSE, on a site of its own so that a FAULT harms no other. Each ITEM's
+     * method begins behind its first WORD and ends ahead of the TOKEN behind it; it answers false
+     * at the TOKEN that can't stand there.
      */
     private static final class Teller {
-        private final Tape tape;
-        private final House site;
-        private final Survey survey;
-
-        Teller(Tape tape, House site, Survey survey) {
-            this.tape = tape;
-            this.site = site;
-            this.survey = survey;
-        }
+        final Tape tape = new Tape();
+        final House site = new House();
+        private final Survey survey = new Survey();
 
         /** How many ITEMS; or, with a FAULT, -1 less its place, the site then being half told. */
-        int tell() {
+        int tell(House from) {
+            site.becomeLike(from);
             tape.rewind();
             for (int items = 1; items <= TAPE_MOST; items++) {
                 if (!tellItem()) {

@@ -89,6 +89,7 @@ public final class CoinTest {
         Check.due("can't be", x.out(1, 2), Check.NONE);
         Check.due("can't be", x.out(0, 0), Check.NONE);
         Check.due("status(3)", x.status(3), 2);
+        Check.due("the only stone", Check.house("stone 3").out(3, 0), 1);
         wrongNumbers("out", x, x.out(-1, 0), x.out(4, 0), x.out(0, 2), x.out(0, -1), x.out(2, 0));
         Check.due("nothing is pulled", x.now(5), 26);
     }
@@ -107,6 +108,7 @@ public final class CoinTest {
         Check.due("an empty wall", x.reach(2), 0);
         x.slack(99);
         Check.due("all", x.reach(0), 3);
+        Check.due("the only stone", Check.house("stone 3").reach(3), 1);
         wrongNumbers("reach", x, x.reach(-1), x.reach(4));
     }
 
@@ -128,6 +130,8 @@ public final class CoinTest {
         Check.due("wedge 15 under wall 2", z.help(), 215);
         z.beam(1, true);
         Check.due("wall 1 stays at 0", z.help(), 301);
+        WallDown u = Check.house("stone 0 high 9;wedge 1 20;slack 0;beam 1 off;beam 2 off");
+        Check.due("just twenty", u.help(), 20);
         WallDown v = new WallDown();
         Check.due("no stones", v.help(), Check.NONE);
         Check.due("status(3)", v.status(3), 1);

@@ -99,6 +99,11 @@ public final class PullsTest {
         x.beam(2, false);
         Check.due("with none", x.pulls(), 14);
         Check.due("none to pull", new WallDown().pulls(), 0);
+        for (int wall = 0; wall < 4; wall++) {
+            WallDown y = new WallDown();
+            y.stone(0, wall, 5);
+            Check.due("one wall", y.pulls(), 1 << wall);
+        }
     }
 
     /** Promise 15. */

@@ -222,6 +222,7 @@ public final class SheetsTest {
     private static void book() {
         WallDown x = Check.house("stone 0 price 1;stone 0 price 100;stone 1 price 40;false 1;stone 3 price 30");
         x.sheet(0, 16, 3);
+        fill(x, 0, 7, 7, 7);
         Check.due("a short book", x.book(0), 3);
         holds("the book", x, 0, 0, 40, 101);
         x.sheet(1, 64, 40);

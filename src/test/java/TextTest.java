@@ -158,6 +158,13 @@ public final class TextTest {
         fault("stone ;", 6);
         fault("stones 0", 0);
         fault("ston 0", 0);
+        fault("atone 0", 0);
+        fault("stona 0", 0);
+        fault("peam 0 on", 0);
+        fault("beam 0 in", 7);
+        fault("bull 0", 0);
+        fault("stone 0 nigh 5", 8);
+        fault("stone 0 prise 5", 8);
         fault("high 0", 0);
         fault("7", 0);
         fault("stone 0 high", 12);

@@ -324,6 +324,7 @@ public final class WallsTest {
         Check.due("no such beam", x.beam(3, true), Check.BEYOND);
         Check.due("no such beam", x.beam(-1, false), Check.BEYOND);
         Check.due("the set", x.now(3), 3);
+        Check.due("status(0)", x.status(0), 2);
     }
 
     /** Promise 11. */
