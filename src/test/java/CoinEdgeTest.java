@@ -11,6 +11,7 @@ public final class CoinEdgeTest {
         mostOfAllPulls();
         mostOfMorePullsThanStones();
         mostOfTheDearestHouse();
+        mostBehindPulls();
         mostBeyond();
         whereOfNoPulls();
         whereOfNoStones();
@@ -91,6 +92,22 @@ public final class CoinEdgeTest {
         Check.due("most(28)", x.most(28), 28 * 2008);
         Check.due("most(27)", x.most(27), 27 * 2008);
         Check.due("most(1)", x.most(1), 2008);
+    }
+
+    /** Promises 23, 24 and 38: a ROW goes from how all is now: what was pulled ahead of it brings no more. */
+    private static void mostBehindPulls() {
+        WallDown x = dearest();
+        for (int left = 27; left >= 0; left--) {
+            x.most(28);
+            x.pull(3 - left % 4);
+            Check.due("most(0) of " + left, x.most(0), 0);
+            Check.due("most(1) of " + left, x.most(1), left > 0 ? 2008 : 0);
+            Check.due("most(28) of " + left, x.most(28), 2008 * left);
+            Check.due("where(0) of " + left, x.where(0), x.now(5));
+        }
+        x.sheet(0, 64, 2);
+        Check.due("book", x.book(0), 2);
+        Check.due("for 1", x.write(0, 1, 0), 0);
     }
 
     /** Promise 23: BEYOND. */

@@ -95,6 +95,9 @@ public final class FaceTest {
             Check.that("no " + pattern + " in the class", !Pattern.compile(pattern).matcher(code).find());
         }
         for (String line : code.split("\n")) {
+            Check.that("made when an object is made, not by a call: " + line, !line.contains("new ")
+                    || line.matches(" +(private )?final [\\w\\[\\]]+ \\w+ = new .*")
+                    || line.equals("            sheets[s] = new Sheet();"));
             if (line.startsWith("import ")) {
                 Check.that(line, line.equals("import java.util.Arrays;"));
             }

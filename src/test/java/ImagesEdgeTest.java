@@ -6,6 +6,7 @@ public final class ImagesEdgeTest {
         imageOfNothing();
         imageOfAll();
         imageTwice();
+        imageChangesNothingElse();
         imageIsNotTouchedByWhatComes();
         undoOfNothingKept();
         undoKeepsIt();
@@ -85,6 +86,25 @@ public final class ImagesEdgeTest {
         Check.due("the latest", x.undo(), 0);
         Check.due("one tear is enough", x.tear(), 1);
         Check.due("nothing is kept", x.tear(), 0);
+    }
+
+    /** Promise 40: it is kept; walls, tape, sheets and findings stay as they are. */
+    private static void imageChangesNothingElse() {
+        Supplier<WallDown> undone = () -> {
+            WallDown x = Edge.rich();
+            x.undo();
+            return x;
+        };
+        Edge.asked("image() of what is kept already", undone, 1, WallDown::image);
+        WallDown x = Edge.brimful();
+        String before = Edge.stones(x);
+        Check.due("image()", x.image(), 1);
+        Check.that("all is as it was", Edge.stones(x).equals(before));
+        Check.due("the tape stays", x.count(1), 120);
+        Check.due("a sheet stays", x.write(1, 39, 0), 6);
+        Check.due("no finding", x.status(-1), 0);
+        Check.due("the text stays", x.house(), 15);
+        Check.due("slack", x.now(1), 33);
     }
 
     /** Promise 40: what comes later doesn't come to the image. */
@@ -172,7 +192,7 @@ public final class ImagesEdgeTest {
         WallDown x = new WallDown();
         Edge.feed(x, "slack 1");
         x.image();
-        x.wipe();
+        Check.due("wipe()", x.wipe(), 7);
         x.undo();
         Check.due("wiped it stays", x.count(1), 0);
         Edge.feed(x, "slack 44;".repeat(13) + "   ");

@@ -34,6 +34,7 @@ public final class PullsEdgeTest {
         bringOfNone();
         bringBeyondBeforeState();
         slackForAtItsEnds();
+        slackOfEachNumber();
         slackForNone();
         slackForBeyondBeforeNone();
         slackAllAtItsEnds();
@@ -411,6 +412,26 @@ public final class PullsEdgeTest {
             int inches = due;
             Edge.asked("slackFor", () -> Edge.told("stone 3 high " + inches + ";stone 2 high 30"), inches,
                     x -> x.slackFor(512));
+        }
+    }
+
+    /** Promises 21 and 22: each number from 1 to 99, and 100. */
+    private static void slackOfEachNumber() {
+        for (int inches = 1; inches <= 100; inches++) {
+            WallDown x = new WallDown();
+            x.stone(0, 3, 1);
+            for (int left = inches; left > 0; left -= 30) {
+                x.stone(0, 2, Math.min(30, left));
+            }
+            x.beam(1, false);
+            int due = inches > 99 ? Check.NONE : inches;
+            Check.due("the inch out beside " + inches, x.slackFor(x.now(5) - 512), due);
+            WallDown y = new WallDown();
+            y.stone(0, 0, 1);
+            for (int left = inches; left > 0; left -= 30) {
+                y.stone(0, 0, Math.min(30, left));
+            }
+            Check.due("the inch out under " + inches, y.slackAll(), due);
         }
     }
 

@@ -25,6 +25,7 @@ public final class WallsEdgeTest {
         coinAtItsEnds();
         keyMayGoAtTheOuterWalls();
         throughMayGoAtTheLastWall();
+        mayGoAsIfItWereTheLowest();
         setHighAtItsEnds();
         setPriceAtItsEnds();
         setBeyond();
@@ -338,6 +339,24 @@ public final class WallsEdgeTest {
             Edge.asked("through of a full wall 3", made, 1, x -> x.of(3, stone, 5));
             Edge.asked("key of a full wall 0", made, 1, x -> x.of(0, stone, 5));
         }
+    }
+
+    /** Promise 4: 1 if it MAY GO (as if it were the lowest): its own KIND is asked, wherever it lies. */
+    private static void mayGoAsIfItWereTheLowest() {
+        Supplier<WallDown> made = () -> Edge.told("stone 1;key 1;stone 1;through 1;carved 1;rotten 1",
+                "stone 2;stone 2;stone 2;stone 2;stone 2;stone 2;stone 2;slack 99");
+        int[] due = {1, 0, 1, 0, 0, 1};
+        for (int i = 0; i < due.length; i++) {
+            int stone = i;
+            Edge.asked("one more beside, stone " + i, made, due[i], x -> x.of(1, stone, 5));
+            Edge.asked("as many beside, stone " + i, () -> {
+                WallDown x = made.get();
+                x.stone(1, 1, 5);
+                return x;
+            }, 1, x -> x.of(1, stone, 5));
+        }
+        Edge.asked("one that may go on one that may not", () -> Edge.told("key 3;stone 3;stone 2;stone 2;stone 2"), 1,
+                x -> x.of(3, 1, 5));
     }
 
     /** Promise 5: HIGH: 1 to 30. */
@@ -671,6 +690,13 @@ public final class WallsEdgeTest {
         Check.due("at most", x.now(2), 999999);
         x.stone(0, 3, 1);
         Check.due("by a row", x.bring(0), 1);
+        Check.due("more is lost", x.now(2), 999999);
+        Edge.feed(x, "stone 0 price 999;pull 0");
+        Check.due("by a text", x.house(), 2);
+        Check.due("more is lost", x.now(2), 999999);
+        x.stone(0, 0, 1);
+        x.sheet(0, 8, 1);
+        Check.due("by a sheet", x.lays(0), 1);
         Check.due("more is lost", x.now(2), 999999);
         x.image();
         Check.due("undo", x.undo(), 0);
